@@ -3,11 +3,11 @@
  * and are run again, what lies in them before goes, but for what is taken up again as it was.
  *
  * <p>An event is written as 2 * number of its interval, 1 more for an end. All rows are made once,
- * in the constructor, so that no call but a refused one makes an object.
+ * in the constructor, so that no call makes an object, but for the exception that of throws.
  *
  * <p>What keeps every index in its row: an interval has at most two events in the line; an open one
  * begins in front of the cursor, so it is never erased; the frames' intervals lie in one another
- * around the cursor, so these are never erased either.
+ * around the cursor, so these are never erased either; the first frame never goes.
  */
 public final class TraceLine {
     public static final int NONE = -1;

@@ -1,4 +1,5 @@
 import java.util.ArrayList;
+import java.util.Arrays;
 import java.util.List;
 import java.util.Random;
 
@@ -7,7 +8,7 @@ import java.util.Random;
  * alone: a list of events that know their interval, every count made anew at each call.
  */
 public final class ModelTest {
-    private static final int RUNS = 3000;
+    private static final int RUNS = 400;
     private static final int CALLS = 512;
 
     private static final class Interval {
@@ -310,9 +311,11 @@ public final class ModelTest {
     }
 
     private static final List<String> told = new ArrayList<>();
+    private static int calls = 0;
 
     private static boolean same(String call, Integer got, Integer want) {
         told.add(call + " = " + got);
+        calls++;
         if (got == null ? want == null : got.equals(want)) {
             return true;
         }
@@ -330,35 +333,49 @@ public final class ModelTest {
         }
     }
 
-    private static boolean step(TraceLine t, Model m, Random r, int style) {
+    // How often each call comes, by the kind of the last frame, so that reruns get deep:
+    // begin, end, weigh, stale, resume, take, done, toEnd, toBegin.
+    private static final int[][] OFTEN = {
+        {20, 30, 6, 20, 30, 1, 1, 2, 10},
+        {12, 20, 5, 10, 1, 30, 3, 1, 1},
+        {1, 1, 1, 30, 30, 1, 3, 1, 1}};
+
+    private static int someCall(Random r, int kind) {
+        int left = r.nextInt(Arrays.stream(OFTEN[kind]).sum());
+        int call = 0;
+        while (left >= OFTEN[kind][call]) {
+            left -= OFTEN[kind][call];
+            call++;
+        }
+        return call;
+    }
+
+    private static boolean step(TraceLine t, Model m, Random r) {
         int key = r.nextInt(4);
         int some = r.nextInt(m.all().size() + 3) - 1;
         int n = someWeight(r);
-        switch (r.nextInt(style)) {
-            case 0: case 1: case 2: return same("begin(" + key + ")", t.begin(key), m.begin(key));
-            case 3: case 4: return same("end()", t.end(), m.end());
-            case 5: return same("weigh(" + n + ")", asInt(t.weigh(n)), m.weigh(n));
-            case 6: case 7: return same("stale(" + some + ")", asInt(t.stale(some)), m.stale(some));
-            case 8: case 9: return same("resume()", t.resume(), m.resume());
-            case 10: case 11: return same("take(" + key + ")", t.take(key), m.take(key));
-            case 12: return same("done()", t.done(), m.done());
-            case 13:
-                if (r.nextInt(4) == 0) {
-                    return same("toEnd()", asInt(t.toEnd()), m.move(true));
-                }
-                return same("toBegin()", asInt(t.toBegin()), m.move(false));
-            case 14:
-                if (r.nextInt(100) == 0) {
-                    t.wipe();
-                    m.wipe();
-                    return same("wipe()", 0, 0);
-                }
-                return same("end()", t.end(), m.end());
-            default: return same("end()", t.end(), m.end());
+        if (r.nextInt(1000) == 0) {
+            t.wipe();
+            m.wipe();
+            return same("wipe()", 0, 0);
+        }
+        switch (someCall(r, m.last().kind)) {
+            case 0: return same("begin(" + key + ")", t.begin(key), m.begin(key));
+            case 1: return same("end()", t.end(), m.end());
+            case 2: return same("weigh(" + n + ")", asInt(t.weigh(n)), m.weigh(n));
+            case 3: return same("stale(" + some + ")", asInt(t.stale(some)), m.stale(some));
+            case 4: return same("resume()", t.resume(), m.resume());
+            case 5: return same("take(" + key + ")", t.take(key), m.take(key));
+            case 6: return same("done()", t.done(), m.done());
+            case 7: return same("toEnd()", asInt(t.toEnd()), m.move(true));
+            default: return same("toBegin()", asInt(t.toBegin()), m.move(false));
         }
     }
 
+    /** What is asked is not counted as calls, nor told: it changes nothing, so a run without it is the same. */
     private static boolean sameToAsk(TraceLine t, Model m) {
+        int callsBefore = calls;
+        int toldBefore = told.size();
         boolean same = true;
         for (int which = -1; which <= 10; which++) {
             same &= same("look(" + which + ")", t.look(which), m.look(which));
@@ -371,30 +388,49 @@ public final class ModelTest {
                 same &= same("of(" + i + ", " + what + ")", ofOrNull(t, i, what), m.of(i, what));
             }
         }
+        calls = callsBefore;
+        told.subList(toldBefore, told.size()).clear();
         return same;
+    }
+
+    /** Intervals in one another, some of them stale, so that the reruns find something to go through. */
+    private static boolean grow(TraceLine t, Model m, Random r) {
+        boolean same = true;
+        int many = 10 + r.nextInt(50);
+        int endsOfTen = 1 + r.nextInt(5);
+        for (int i = 0; i < many; i++) {
+            int key = r.nextInt(4);
+            same &= same("begin(" + key + ")", t.begin(key), m.begin(key));
+            same &= same("weigh(" + i + ")", asInt(t.weigh(i)), m.weigh(i));
+            if (r.nextInt(10) < endsOfTen) {
+                same &= same("end()", t.end(), m.end());
+            }
+        }
+        while (m.lastOpen() != null) {
+            same &= same("end()", t.end(), m.end());
+        }
+        for (int i = 0; i < many; i += 1 + r.nextInt(5)) {
+            same &= same("stale(" + i + ")", asInt(t.stale(i)), m.stale(i));
+        }
+        return same && same("toBegin()", asInt(t.toBegin()), m.move(false));
     }
 
     private static boolean run(int seed) {
         Random r = new Random(seed);
         TraceLine t = new TraceLine();
         Model m = new Model();
-        int style = 14 + seed % 4;
         told.clear();
         told.add("seed " + seed);
-        for (int call = 0; call < CALLS; call++) {
-            if (!step(t, m, r, style)) {
+        calls = 0;
+        if (!grow(t, m, r)) {
+            return false;
+        }
+        while (calls < CALLS) {
+            if (!step(t, m, r)) {
                 return false;
             }
-            int before = told.size();
-            if (r.nextInt(16) == 0 && m.line.size() < 80 && !sameToAsk(t, m)) {
+            if (r.nextInt(16) == 0 && !sameToAsk(t, m)) {
                 return false;
-            }
-            while (told.size() > before) {
-                told.remove(told.size() - 1);
-            }
-            // A line that has grown long is seldom rerun whole, so most runs stay short.
-            if (m.line.size() > 120) {
-                return true;
             }
         }
         return sameToAsk(t, m);

@@ -186,6 +186,17 @@ public final class PromiseTest {
         due("a new weight", t.of(2, 1), 0);
         due("no end of its forerunner", t.of(2, 4), NONE);
         due("then the next", t.begin(9), 7);
+
+        t = made("12))");
+        t.stale(0);
+        t.stale(1);
+        t.toBegin();
+        t.resume();
+        t.done();
+        due("the number of a stale one", t.begin(9), 1);
+        t.end();
+        due("is not stale for it", t.of(1, 2), 1);
+        due("none is stale", t.look(5), 0);
     }
 
     private static void beginInTaken() {
@@ -357,6 +368,7 @@ public final class PromiseTest {
         due("stale no more", t.of(1, 2), 1);
         due("its weight", t.of(1, 1), 0);
         due("what lies in it keeps its own", t.of(2, 1), 30);
+        t.stale(2);
         before = picture(t);
         due("in a rerun frame", t.resume(), NONE);
         unchanged("resume", before, t);
@@ -453,6 +465,18 @@ public final class PromiseTest {
         due("least free", t.begin(9), 1);
         takeTheFirst();
         takeWithOpen();
+        takeInTaken();
+    }
+
+    private static void takeInTaken() {
+        TraceLine t = made("123)))");
+        t.stale(0);
+        t.toBegin();
+        t.resume();
+        t.take(2);
+        String before = picture(t);
+        due("in a taken frame, with one ahead", t.take(3), NONE);
+        unchanged("take", before, t);
     }
 
     private static void takeTheFirst() {
@@ -601,6 +625,7 @@ public final class PromiseTest {
         t = nest(5);
         t.weigh(9);
         t.resume();
+        t.stale(0);
         t.begin(4);
         t.weigh(9);
         t.take(7);
