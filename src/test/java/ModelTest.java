@@ -9,7 +9,9 @@ import java.util.Random;
  */
 public final class ModelTest {
     private static final int RUNS = 400;
-    private static final int CALLS = 512;
+    private static final int MOST_CALLS = 512;
+    // Fewer than the most, so that there is room to ask behind them.
+    private static final int CALLS = 440;
 
     private static final class Interval {
         final int number;
@@ -302,6 +304,32 @@ public final class ModelTest {
         return b ? 1 : 0;
     }
 
+    private record Call(String name, int a, int b) {
+        @Override
+        public String toString() {
+            return name + "(" + a + ", " + b + ")";
+        }
+    }
+
+    /** Null where the call throws. */
+    private static Integer answer(TraceLine t, Call c) {
+        switch (c.name) {
+            case "begin": return t.begin(c.a);
+            case "end": return t.end();
+            case "weigh": return asInt(t.weigh(c.a));
+            case "stale": return asInt(t.stale(c.a));
+            case "resume": return t.resume();
+            case "take": return t.take(c.a);
+            case "done": return t.done();
+            case "toEnd": return asInt(t.toEnd());
+            case "toBegin": return asInt(t.toBegin());
+            case "wipe": t.wipe(); return 0;
+            case "event": return t.event(c.a);
+            case "look": return t.look(c.a);
+            default: return ofOrNull(t, c.a, c.b);
+        }
+    }
+
     private static Integer ofOrNull(TraceLine t, int i, int what) {
         try {
             return t.of(i, what);
@@ -310,130 +338,163 @@ public final class ModelTest {
         }
     }
 
-    private static final List<String> told = new ArrayList<>();
-    private static int calls = 0;
-
-    private static boolean same(String call, Integer got, Integer want) {
-        told.add(call + " = " + got);
-        calls++;
-        if (got == null ? want == null : got.equals(want)) {
-            return true;
-        }
-        System.out.println(call + " answered " + got + ", due is " + want + ", after " + told);
-        return false;
-    }
-
-    private static int someWeight(Random r) {
-        switch (r.nextInt(20)) {
-            case 0: return -1 - r.nextInt(5);
-            case 1: return 1000000000;
-            case 2: return 300000000;
-            case 3: return Integer.MAX_VALUE;
-            default: return r.nextInt(10);
+    private static Integer due(Model m, Call c) {
+        switch (c.name) {
+            case "begin": return m.begin(c.a);
+            case "end": return m.end();
+            case "weigh": return m.weigh(c.a);
+            case "stale": return m.stale(c.a);
+            case "resume": return m.resume();
+            case "take": return m.take(c.a);
+            case "done": return m.done();
+            case "toEnd": return m.move(true);
+            case "toBegin": return m.move(false);
+            case "wipe": m.wipe(); return 0;
+            case "event": return m.event(c.a);
+            case "look": return m.look(c.a);
+            default: return m.of(c.a, c.b);
         }
     }
 
-    // How often each call comes, by the kind of the last frame, so that reruns get deep:
-    // begin, end, weigh, stale, resume, take, done, toEnd, toBegin.
+    /** One object beside its model, and the calls that both have got. */
+    private static final class Pair {
+        final TraceLine t = new TraceLine();
+        final Model m = new Model();
+        final Random r;
+        final List<Call> played = new ArrayList<>();
+        boolean same = true;
+
+        Pair(int seed) {
+            r = new Random(seed);
+        }
+
+        void play(String name, int a) {
+            Call c = new Call(name, a, 0);
+            compare(c, answer(t, c), due(m, c));
+            played.add(c);
+        }
+
+        void compare(Call c, Integer got, Integer want) {
+            if (same && (got == null ? want != null : !got.equals(want))) {
+                System.out.println(c + " answered " + got + ", due is " + want + ", after " + played);
+                same = false;
+            }
+        }
+
+        /** On new objects, since nothing is promised behind the 512th call of one. */
+        void askAll() {
+            List<Call> asks = asks();
+            TraceLine asked = null;
+            int room = 0;
+            for (Call c : asks) {
+                if (room == 0) {
+                    asked = playedAgain();
+                    room = MOST_CALLS - played.size();
+                }
+                compare(c, answer(asked, c), due(m, c));
+                room--;
+            }
+        }
+
+        TraceLine playedAgain() {
+            TraceLine again = new TraceLine();
+            for (Call c : played) {
+                answer(again, c);
+            }
+            return again;
+        }
+
+        List<Call> asks() {
+            List<Call> asks = new ArrayList<>();
+            for (int which = -1; which <= 10; which++) {
+                asks.add(new Call("look", which, 0));
+            }
+            for (int k = -1; k <= m.line.size(); k++) {
+                asks.add(new Call("event", k, 0));
+            }
+            for (int i = -1; i <= m.all().size() + 1; i++) {
+                for (int what = -1; what <= 7; what++) {
+                    asks.add(new Call("of", i, what));
+                }
+            }
+            return asks;
+        }
+
+        /** Intervals in one another, some of them stale, so that the reruns find something to go through. */
+        void grow() {
+            int many = 10 + r.nextInt(50);
+            int endsOfTen = 1 + r.nextInt(5);
+            for (int i = 0; i < many; i++) {
+                play("begin", r.nextInt(4));
+                play("weigh", i);
+                if (r.nextInt(10) < endsOfTen) {
+                    play("end", 0);
+                }
+            }
+            while (m.lastOpen() != null) {
+                play("end", 0);
+            }
+            for (int i = 0; i < many; i += 1 + r.nextInt(5)) {
+                play("stale", i);
+            }
+            play("toBegin", 0);
+        }
+
+        void step() {
+            if (r.nextInt(1000) == 0) {
+                play("wipe", 0);
+                return;
+            }
+            String name = someCall();
+            switch (name) {
+                case "weigh": play(name, someWeight()); break;
+                case "stale": play(name, r.nextInt(m.all().size() + 3) - 1); break;
+                default: play(name, r.nextInt(4));
+            }
+        }
+
+        String someCall() {
+            int[] often = OFTEN[m.last().kind];
+            int left = r.nextInt(Arrays.stream(often).sum());
+            int call = 0;
+            while (left >= often[call]) {
+                left -= often[call];
+                call++;
+            }
+            return NAMES[call];
+        }
+
+        int someWeight() {
+            switch (r.nextInt(20)) {
+                case 0: return -1 - r.nextInt(5);
+                case 1: return 1000000000;
+                case 2: return 300000000;
+                case 3: return Integer.MAX_VALUE;
+                default: return r.nextInt(10);
+            }
+        }
+    }
+
+    private static final String[] NAMES = {
+        "begin", "end", "weigh", "stale", "resume", "take", "done", "toEnd", "toBegin"};
+
+    // How often each of them comes, by the kind of the last frame, so that reruns get deep.
     private static final int[][] OFTEN = {
         {20, 30, 6, 20, 30, 1, 1, 2, 10},
         {12, 20, 5, 10, 1, 30, 3, 1, 1},
         {1, 1, 1, 30, 30, 1, 3, 1, 1}};
 
-    private static int someCall(Random r, int kind) {
-        int left = r.nextInt(Arrays.stream(OFTEN[kind]).sum());
-        int call = 0;
-        while (left >= OFTEN[kind][call]) {
-            left -= OFTEN[kind][call];
-            call++;
-        }
-        return call;
-    }
-
-    private static boolean step(TraceLine t, Model m, Random r) {
-        int key = r.nextInt(4);
-        int some = r.nextInt(m.all().size() + 3) - 1;
-        int n = someWeight(r);
-        if (r.nextInt(1000) == 0) {
-            t.wipe();
-            m.wipe();
-            return same("wipe()", 0, 0);
-        }
-        switch (someCall(r, m.last().kind)) {
-            case 0: return same("begin(" + key + ")", t.begin(key), m.begin(key));
-            case 1: return same("end()", t.end(), m.end());
-            case 2: return same("weigh(" + n + ")", asInt(t.weigh(n)), m.weigh(n));
-            case 3: return same("stale(" + some + ")", asInt(t.stale(some)), m.stale(some));
-            case 4: return same("resume()", t.resume(), m.resume());
-            case 5: return same("take(" + key + ")", t.take(key), m.take(key));
-            case 6: return same("done()", t.done(), m.done());
-            case 7: return same("toEnd()", asInt(t.toEnd()), m.move(true));
-            default: return same("toBegin()", asInt(t.toBegin()), m.move(false));
-        }
-    }
-
-    /** What is asked is not counted as calls, nor told: it changes nothing, so a run without it is the same. */
-    private static boolean sameToAsk(TraceLine t, Model m) {
-        int callsBefore = calls;
-        int toldBefore = told.size();
-        boolean same = true;
-        for (int which = -1; which <= 10; which++) {
-            same &= same("look(" + which + ")", t.look(which), m.look(which));
-        }
-        for (int k = -1; k <= m.line.size(); k++) {
-            same &= same("event(" + k + ")", t.event(k), m.event(k));
-        }
-        for (int i = -1; i <= m.all().size() + 1; i++) {
-            for (int what = -1; what <= 7; what++) {
-                same &= same("of(" + i + ", " + what + ")", ofOrNull(t, i, what), m.of(i, what));
-            }
-        }
-        calls = callsBefore;
-        told.subList(toldBefore, told.size()).clear();
-        return same;
-    }
-
-    /** Intervals in one another, some of them stale, so that the reruns find something to go through. */
-    private static boolean grow(TraceLine t, Model m, Random r) {
-        boolean same = true;
-        int many = 10 + r.nextInt(50);
-        int endsOfTen = 1 + r.nextInt(5);
-        for (int i = 0; i < many; i++) {
-            int key = r.nextInt(4);
-            same &= same("begin(" + key + ")", t.begin(key), m.begin(key));
-            same &= same("weigh(" + i + ")", asInt(t.weigh(i)), m.weigh(i));
-            if (r.nextInt(10) < endsOfTen) {
-                same &= same("end()", t.end(), m.end());
-            }
-        }
-        while (m.lastOpen() != null) {
-            same &= same("end()", t.end(), m.end());
-        }
-        for (int i = 0; i < many; i += 1 + r.nextInt(5)) {
-            same &= same("stale(" + i + ")", asInt(t.stale(i)), m.stale(i));
-        }
-        return same && same("toBegin()", asInt(t.toBegin()), m.move(false));
-    }
-
     private static boolean run(int seed) {
-        Random r = new Random(seed);
-        TraceLine t = new TraceLine();
-        Model m = new Model();
-        told.clear();
-        told.add("seed " + seed);
-        calls = 0;
-        if (!grow(t, m, r)) {
-            return false;
-        }
-        while (calls < CALLS) {
-            if (!step(t, m, r)) {
-                return false;
-            }
-            if (r.nextInt(16) == 0 && !sameToAsk(t, m)) {
-                return false;
+        Pair pair = new Pair(seed);
+        pair.grow();
+        while (pair.played.size() < CALLS && pair.same) {
+            pair.step();
+            if (pair.r.nextInt(16) == 0) {
+                pair.askAll();
             }
         }
-        return sameToAsk(t, m);
+        pair.askAll();
+        return pair.same;
     }
 
     public static void main(String[] args) {
